@@ -426,15 +426,15 @@ public final class TourHouse {
 
     /**
      * Least ways from one vertex. A way is dear by its cost first and then by its tie, a number
-     * whose places stand for the edges, edge 0 the highest, so that fewer uses of edge 0 count
-     * before fewer uses of edge 1, and so on. No two ways are as dear as each other.
+     * whose bits stand for the edges, edge 0 the highest, so that fewer uses of edge 0 count
+     * before fewer uses of edge 1, and so on. A bit for each edge is enough though extras may be
+     * many: what can be made less at all can be made less by changing each edge by one at most.
      */
     private static final class Distances {
         final boolean[] reached;
         final long[] cost;
         final long[] tie;
         final int[] lastStep;
-        final long[] threes;
         final int[] nothingToGiveBack;
         boolean changed;
 
@@ -443,14 +443,8 @@ public final class TourHouse {
             cost = new long[MOST_VERTICES];
             tie = new long[MOST_VERTICES];
             lastStep = new int[MOST_VERTICES];
-            threes = new long[MOST_EDGES];
             nothingToGiveBack = new int[MOST_EDGES];
             changed = false;
-            long three = 1;
-            for (int e = MOST_EDGES - 1; e >= 0; e--) {
-                threes[e] = three;
-                three *= 3;
-            }
         }
 
         void searchFrom(int source, Graph graph) {
@@ -469,7 +463,7 @@ public final class TourHouse {
             for (int pass = 0; pass < MOST_VERTICES && changed; pass++) {
                 changed = false;
                 for (int e = 0; e < graph.edges; e++) {
-                    long itsTie = tieOf(e, graph.directed);
+                    long itsTie = 1L << (MOST_EDGES - 1 - e);
                     tryStep(2 * e, graph.from[e], graph.to[e], graph.weight[e], itsTie);
                     if (!graph.directed) {
                         tryStep(2 * e + 1, graph.to[e], graph.from[e], graph.weight[e], itsTie);
@@ -478,14 +472,6 @@ public final class TourHouse {
                     }
                 }
             }
-        }
-
-        /**
-         * Ways that give back have digits -1, 0 and 1, for which powers of three keep the order;
-         * the others have 0 and 1, and powers of two leave room to add up several ways.
-         */
-        long tieOf(int e, boolean directed) {
-            return directed ? threes[e] : 1L << (MOST_EDGES - 1 - e);
         }
 
         void tryStep(int s, int a, int b, long itsCost, long itsTie) {
