@@ -87,7 +87,7 @@ public final class JudgeBoundsTest {
         dueJudge(x, -3, 0, 0, 0, 2, 4);
         dueJudge(x, 1111, 0, 0, 2, 6, 4);
         dueJudge(x, 1111, 1, 6, 4, 0, 2);
-        dueJudge(x, 1222 - 1, 0, 0, 2, 6, 4, 2, 4);
+        dueJudge(x, 1221, 0, 0, 2, 6, 4, 2, 4);
         if (!directed) {
             dueJudge(x, -3, 0, 0, 2, 6, 3);
             dueJudge(x, -3, 0, 0, 5, 6, 4);
