@@ -81,6 +81,13 @@ final class Bounds {
         Checks.due("behind " + call, answersFrom(x), answersFrom(made.get()));
     }
 
+    /** Of two objects made alike one meets calls that are due to leave all as it is; behind them both answer alike. */
+    static void stays(String calls, Supplier<TourHouse> made, Consumer<TourHouse> leavingCalls) {
+        TourHouse x = made.get();
+        leavingCalls.accept(x);
+        Checks.due("behind " + calls, answersFrom(x), answersFrom(made.get()));
+    }
+
     /** All that an object answers from now on, and what it makes of its PATH; few enough calls for any object. */
     private static String answersFrom(TourHouse x) {
         StringBuilder answers = new StringBuilder();

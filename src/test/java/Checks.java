@@ -1,6 +1,7 @@
 /** Counts the answers that are not as due, and tells each of them. */
 final class Checks {
     private static int wrong = 0;
+    private static String sentence = "";
 
     private Checks() {
     }
@@ -8,6 +9,11 @@ final class Checks {
     /** A call that is due to throw. */
     interface Call {
         void run();
+    }
+
+    /** The document's words that the checks from here on hold the class to; told with each wrong answer. */
+    static void sentence(String words) {
+        sentence = "\"" + words + "\": ";
     }
 
     static void due(String call, long got, long want) {
@@ -107,6 +113,6 @@ final class Checks {
 
     private static void tell(String what) {
         wrong++;
-        System.out.println(what);
+        System.out.println(sentence + what);
     }
 }
