@@ -91,10 +91,11 @@ final class Bounds {
     /** All that an object answers from now on, and what it makes of its PATH; few enough calls for any object. */
     private static String answersFrom(TourHouse x) {
         StringBuilder answers = new StringBuilder();
+        // Before the looks, so that it shows if one of these takes something away.
+        answers.append("row ").append(Checks.rowOf(x)).append(" extras ").append(Checks.extrasOf(x)).append(" looks");
         for (int what = 0; what <= 8; what++) {
-            answers.append(x.look(what)).append(' ');
+            answers.append(' ').append(x.look(what));
         }
-        answers.append("row ").append(Checks.rowOf(x)).append(" extras ").append(Checks.extrasOf(x));
         answers.append(" path ").append(x.judge(0)).append(" distances");
         for (int v = 0; v < x.look(0); v++) {
             answers.append(' ').append(x.distance(0, v)).append(' ').append(x.distance(v, 0));

@@ -136,6 +136,8 @@ public final class DocumentTermsTest {
         Checks.due("judge(0) of each edge once", Checks.judged(x, 0, 0, 6, 2, 4), 4321);
         Checks.due("judge(0), edge 3 twice", Checks.judged(x, 0, 0, 6, 6, 2, 4), 8321);
         Checks.due("judge(0), edge 0 three times", Checks.judged(x, 0, 0, 1, 0, 6, 2, 4), 4323);
+        TourHouse heavy = Checks.graph(true, 1, 0, 0, 1000000000);
+        Checks.due("judge(0) of three heavy steps", Checks.judged(heavy, 0, 0, 0, 0), 3000000000L);
     }
 
     private static void covering() {
@@ -200,6 +202,11 @@ public final class DocumentTermsTest {
             0, 22, "1 1 0 0", "0 1 4 3 2 7");
         Bounds.dueRound("directed", Checks.graph(true, 3, 1, 2, 2, 2, 0, 2, 1, 0, 5, 0, 1, 1, 0, 1, 1, 0, 1, 1),
             0, 16, "1 1 0 0 0 0", "6 0 2 8 0 2 10 4");
+        // One way more is needed from 0 and from 1, to 2 and to 3: what is nearest to 0 is needed for 1.
+        TourHouse crossed = Checks.graph(true, 4, 0, 2, 1, 0, 3, 2, 1, 2, 1, 1, 3, 100,
+            2, 0, 50, 2, 0, 50, 2, 1, 50, 3, 0, 50, 3, 1, 50, 3, 1, 50);
+        Checks.due("round(0) crossed", crossed.round(0), 407);
+        Checks.due("extras crossed", Checks.extrasOf(crossed), "0 1 1 0 0 0 0 0 0 0");
     }
 
     private static void roundsWithTheFewestStepsOfTheFirstEdge() {
